@@ -109,11 +109,11 @@ public final class BalanceRounds {
         if (!solved) {
             throw new IllegalStateException("it is not solved");
         }
-        return town.hangTogether(share.areasIn[round]);
+        return share.hangsTogether(round);
     }
 
     public int faults() {
-        return solved ? share.faultsOfHours() + share.tornRounds() : STATE;
+        return solved ? share.allFaults() : STATE;
     }
 
     public long bound() {
@@ -175,11 +175,12 @@ public final class BalanceRounds {
 
     /** Rows are tried from the least one on, so that of several with the same cost the first one found is due. */
     private static void tryRoundsFrom(int area, Share share, Least least) {
-        if (share.costOfPlaced() >= least.cost) {
+        long cost = share.cost();
+        if (cost >= least.cost) {
             return;
         }
         if (area >= share.town.count || area >= MOST_EXACT) {
-            least.keepIfLess(share);
+            least.keep(share, cost);
             return;
         }
         for (int round = 0; round < ROUNDS; round++) {
@@ -219,12 +220,9 @@ public final class BalanceRounds {
         private final int[] row = new int[MOST_EXACT];
         private long cost = 0;
 
-        void keepIfLess(Share share) {
-            long itsCost = share.cost();
-            if (itsCost < cost) {
-                cost = itsCost;
-                System.arraycopy(share.roundOf, 0, row, 0, MOST_EXACT);
-            }
+        void keep(Share share, long itsCost) {
+            cost = itsCost;
+            System.arraycopy(share.roundOf, 0, row, 0, MOST_EXACT);
         }
     }
 
@@ -293,28 +291,30 @@ public final class BalanceRounds {
             return true;
         }
 
-        boolean hangTogether(int areas) {
+        /** Whether from each of some areas there is a way to each other one over the areas of a set that holds them. */
+        boolean haveWays(int areas, int over) {
             int reached = areas & -areas;
             int before = 0;
             // Each pass but the last one reaches an area more, so there are no more passes than areas.
-            for (int pass = 0; pass < AREAS && reached != before; pass++) {
+            for (int pass = 0; pass < AREAS && reached != before && (areas & ~reached) != 0; pass++) {
                 before = reached;
                 for (int area = 0; area < count; area++) {
                     if ((reached & 1 << area) != 0) {
-                        reached |= neighbours[area] & areas;
+                        reached |= neighbours[area] & over;
                     }
                 }
             }
-            return reached == areas;
+            return (areas & ~reached) == 0;
         }
     }
 
-    /** A share, whole or of some areas alone, with the sums of its rounds kept in step. */
+    /** A share, or the beginning of one with areas that are still open, with the sums of its rounds kept in step. */
     private static final class Share {
         private final Town town;
         private final int[] roundOf = new int[AREAS];
         private final int[] areasIn = new int[ROUNDS];
         private final long[] loadOf = new long[ROUNDS];
+        private int open = 0;
         private int changes = 0;
 
         Share(Town town) {
@@ -322,6 +322,7 @@ public final class BalanceRounds {
         }
 
         void clear() {
+            open = (1 << town.count) - 1;
             changes = 0;
             for (int round = 0; round < ROUNDS; round++) {
                 areasIn[round] = 0;
@@ -338,6 +339,7 @@ public final class BalanceRounds {
 
         void put(int area, int round) {
             roundOf[area] = round;
+            open &= ~(1 << area);
             areasIn[round] |= 1 << area;
             loadOf[round] += town.loadIn(area, round);
             if (round != town.todays[area]) {
@@ -347,6 +349,7 @@ public final class BalanceRounds {
 
         void take(int area) {
             int round = roundOf[area];
+            open |= 1 << area;
             areasIn[round] &= ~(1 << area);
             loadOf[round] -= town.loadIn(area, round);
             if (round != town.todays[area]) {
@@ -367,9 +370,17 @@ public final class BalanceRounds {
             return greatest;
         }
 
-        int faultsOfHours() {
+        /** An open area may yet come and hold a round together. */
+        boolean hangsTogether(int round) {
+            return town.haveWays(areasIn[round], areasIn[round] | open);
+        }
+
+        int allFaults() {
             int found = 0;
             for (int round = 0; round < ROUNDS; round++) {
+                if (!hangsTogether(round)) {
+                    found++;
+                }
                 if (town.hours[round] == 0) {
                     found += Integer.bitCount(areasIn[round]);
                 } else if (loadOf[round] > town.hours[round]) {
@@ -379,23 +390,9 @@ public final class BalanceRounds {
             return found;
         }
 
-        int tornRounds() {
-            int torn = 0;
-            for (int round = 0; round < ROUNDS; round++) {
-                if (!town.hangTogether(areasIn[round])) {
-                    torn++;
-                }
-            }
-            return torn;
-        }
-
-        /** No area that is put in later makes this less; a torn round may be mended, so it is not in here. */
-        long costOfPlaced() {
-            return COST_OF_FAULT * faultsOfHours() + COST_OF_LOAD * greatestLoad() + changes;
-        }
-
+        /** With open areas: what it costs at least, wherever they are put, as none of the three parts becomes less. */
         long cost() {
-            return costOfPlaced() + COST_OF_FAULT * tornRounds();
+            return COST_OF_FAULT * allFaults() + COST_OF_LOAD * greatestLoad() + changes;
         }
     }
 }

@@ -17,7 +17,10 @@ public final class PromisesTest {
         promise6SolveExactlyTakesTheLeastRow();
         promise6SolveExactlyChangesLittle();
         promise6SolveExactlyAvoidsFaultsFirst();
+        promise6SolveExactlyWeighsFaultsMost();
         promise6SolveByMovesCountsSteps();
+        promise6SolveByMovesDoesNoneThatIsEqual();
+        promise6SolveByMovesReachesTheLastMove();
         promise6SolveByMovesTakesTheFirstThatIsLess();
         promise7Round();
         promise8Changed();
@@ -36,6 +39,14 @@ public final class PromisesTest {
             x.area(load, today);
         }
         return x;
+    }
+
+    private static void joinAll(BalanceRounds x, int areas) {
+        for (int a = 1; a <= areas; a++) {
+            for (int b = a + 1; b <= areas; b++) {
+                x.joined(a, b, false);
+            }
+        }
     }
 
     private static void dueShare(String name, BalanceRounds x, int... rounds) {
@@ -191,6 +202,9 @@ public final class PromisesTest {
         x.know(2, 3);
         x.know(2, 4);
         Check.due("nine tenths of 0 and 1 are 0 and 1", x.bound(), 20);
+        x.area(19, 0);
+        x.know(2, 5);
+        Check.due("nine tenths of 19 are 18", x.bound(), 38);
     }
 
     private static void promise5KnowEndsTheShareOnlyIfItChanges() {
@@ -247,13 +261,9 @@ public final class PromisesTest {
         dueShare("today stays", x, 3, 2);
         Check.due("nothing is changed", x.changed(), 0);
 
-        // 101 changes cannot be, so that one of load outweighs all changes.
+        // One of load costs 100, more than all eight changes.
         BalanceRounds y = withAreas(0, 1, 1, 1, 1, 1, 1, 1, 1);
-        for (int a = 1; a <= 8; a++) {
-            for (int b = a + 1; b <= 8; b++) {
-                y.joined(a, b, false);
-            }
-        }
+        joinAll(y, 8);
         for (int round = 0; round < 4; round++) {
             y.carrier(round, 100);
         }
@@ -283,14 +293,20 @@ public final class PromisesTest {
         dueShare("two that are joined stay", x, 0, 0, 1);
     }
 
+    private static void promise6SolveExactlyWeighsFaultsMost() {
+        long most = 1000000;
+        BalanceRounds x = withAreas(1, most, most, most, most, most, most, most, most);
+        joinAll(x, 8);
+        x.carrier(0, 8 * most);
+        Check.due("the greatest load there can be, without faults", x.solve(0), 8 * most);
+        Check.due("eight changed", x.changed(), 8);
+        Check.due("no faults at all", x.faults(), 0);
+    }
+
     /** Nine areas of load 1 in round 0, all joined, rounds 0 and 1 with hours. */
     private static BalanceRounds nineAreas() {
         BalanceRounds x = withAreas(0, 1, 1, 1, 1, 1, 1, 1, 1, 1);
-        for (int a = 1; a <= 9; a++) {
-            for (int b = a + 1; b <= 9; b++) {
-                x.joined(a, b, false);
-            }
-        }
+        joinAll(x, 9);
         x.carrier(0, 100);
         x.carrier(1, 100);
         return x;
@@ -314,6 +330,26 @@ public final class PromisesTest {
         Check.due("from today on again", x.solve(1), 8);
     }
 
+    private static void promise6SolveByMovesDoesNoneThatIsEqual() {
+        BalanceRounds x = nineAreas();
+        x.carrier(2, 100);
+        Check.due("area 1 to 1, then to 0 and 2", x.solve(3), 8);
+        dueShare("round 2 is as good as 1, not less", x, 1, 0, 0);
+    }
+
+    private static void promise6SolveByMovesReachesTheLastMove() {
+        // Area 9 alone tears round 0, and it can go to round 3 alone: that is the last move of 27.
+        BalanceRounds x = withAreas(0, 0, 0, 0, 0, 0, 0, 0, 0, 1);
+        joinAll(x, 8);
+        x.carrier(0, 100);
+        x.carrier(3, 100);
+        x.solve(26);
+        Check.due("26 steps: faults()", x.faults(), 1);
+        x.solve(27);
+        Check.due("27 steps: faults()", x.faults(), 0);
+        Check.due("27 steps: round(9)", x.round(9), 3);
+    }
+
     private static void promise6SolveByMovesTakesTheFirstThatIsLess() {
         BalanceRounds x = new BalanceRounds();
         x.carrier(0, 12);
@@ -323,11 +359,7 @@ public final class PromisesTest {
         for (int area = 3; area <= 9; area++) {
             x.area(0, 0);
         }
-        for (int a = 1; a <= 9; a++) {
-            for (int b = a + 1; b <= 9; b++) {
-                x.joined(a, b, false);
-            }
-        }
+        joinAll(x, 9);
         Check.due("10 and 5 are the best already", x.solve(100000), 10);
         Check.due("nothing changed", x.changed(), 0);
         x.area(7, 1);
@@ -400,6 +432,14 @@ public final class PromisesTest {
         x.joined(9, 5, false);
         x.solve(0);
         Check.due("a way over another round's area is none", Check.together(x, 2), 0);
+
+        BalanceRounds y = withAreas(0, 1, 1, 1, 1, 1, 1, 1, 1, 1);
+        int[] chain = {1, 9, 2, 8, 3, 7, 4, 6, 5};
+        for (int i = 1; i < chain.length; i++) {
+            y.joined(chain[i], chain[i - 1], false);
+        }
+        y.solve(0);
+        Check.due("a chain to and fro", Check.together(y, 0), 1);
     }
 
     private static void promise10Faults() {

@@ -1,9 +1,7 @@
 import java.util.ArrayList;
 import java.util.Arrays;
-import java.util.HashSet;
 import java.util.List;
 import java.util.Random;
-import java.util.Set;
 
 /** Runs of calls, the same ones each time, answered by the class and by the document's words taken literally. */
 public final class ReferenceTest {
@@ -12,7 +10,7 @@ public final class ReferenceTest {
     private static final long[] WRONG_LONGS = {-1, 1000001, 100001, 1000000001L, Long.MIN_VALUE, Long.MAX_VALUE};
 
     public static void main(String[] args) {
-        for (int run = 0; run < 700 && !Check.anyWrong(); run++) {
+        for (int run = 0; run < 400 && !Check.anyWrong(); run++) {
             runOf(run);
         }
         Check.end();
@@ -33,8 +31,8 @@ public final class ReferenceTest {
         for (int i = 0; i < 3; i++) {
             pair.carrier();
         }
-        int calls = most > 6 && most <= 8 ? 60 : 200;
-        for (int i = 0; i < calls && !Check.anyWrong(); i++) {
+        int calls = most > 6 && most <= 8 ? 40 : 200;
+        for (int i = 0; i < calls && pair.hasCallsLeft() && !Check.anyWrong(); i++) {
             pair.anyCall(most);
         }
     }
@@ -57,6 +55,11 @@ public final class ReferenceTest {
         private void due(String call, long got, long want) {
             calls++;
             Check.due("run " + run + ", call " + calls + ": " + call, got, want);
+        }
+
+        /** One more turn makes 46 calls at most, and only 512 calls of an object are promised. */
+        boolean hasCallsLeft() {
+            return calls <= 512 - 46;
         }
 
         private boolean seldom() {
@@ -156,8 +159,8 @@ public final class ReferenceTest {
         final List<Long> loads = new ArrayList<>();
         private final List<Integer> todays = new ArrayList<>();
         private final long[] hours = new long[4];
-        private final Set<List<Integer>> joins = new HashSet<>();
-        private final Set<List<Integer>> knows = new HashSet<>();
+        private final boolean[][] joins = new boolean[31][31];
+        private final boolean[][] knows = new boolean[4][31];
         private int[] share = null;
 
         private boolean isArea(int area) {
@@ -185,11 +188,12 @@ public final class ReferenceTest {
             if (!isArea(a) || !isArea(b) || a == b) {
                 return false;
             }
-            List<Integer> way = List.of(Math.min(a, b), Math.max(a, b));
-            if (barred ? joins.remove(way) : joins.add(way)) {
+            if (joins[a][b] == barred) {
                 share = null;
             }
-            return joins.contains(way);
+            joins[a][b] = !barred;
+            joins[b][a] = !barred;
+            return !barred;
         }
 
         int carrier(int round, long newHours) {
@@ -211,9 +215,10 @@ public final class ReferenceTest {
             if (!isRound(round)) {
                 return OUTSIDE;
             }
-            if (!knows.add(List.of(round, area))) {
+            if (knows[round][area]) {
                 return 0;
             }
+            knows[round][area] = true;
             share = null;
             return 1;
         }
@@ -289,7 +294,7 @@ public final class ReferenceTest {
 
         private long loadOf(int area, int round) {
             long load = loads.get(area - 1);
-            return knows.contains(List.of(round, area)) ? load - load / 10 : load;
+            return knows[round][area] ? load - load / 10 : load;
         }
 
         private long loadOfRound(int[] rounds, int round) {
@@ -309,30 +314,24 @@ public final class ReferenceTest {
         }
 
         private boolean hangs(int[] rounds, int round) {
-            int[] group = new int[rounds.length + 1];
-            for (int area = 1; area < group.length; area++) {
-                group[area] = area;
-            }
-            for (List<Integer> way : joins) {
-                int a = way.get(0);
-                int b = way.get(1);
-                if (rounds[a - 1] == round && rounds[b - 1] == round) {
-                    int old = group[a];
-                    for (int i = 1; i < group.length; i++) {
-                        group[i] = group[i] == old ? group[b] : group[i];
-                    }
+            boolean[] met = new boolean[rounds.length + 1];
+            int groups = 0;
+            for (int area = 1; area <= rounds.length; area++) {
+                if (rounds[area - 1] == round && !met[area]) {
+                    groups++;
+                    meet(area, rounds, met);
                 }
             }
-            int only = 0;
-            for (int area = 1; area < group.length; area++) {
-                if (rounds[area - 1] == round) {
-                    if (only != 0 && only != group[area]) {
-                        return false;
-                    }
-                    only = group[area];
+            return groups <= 1;
+        }
+
+        private void meet(int area, int[] rounds, boolean[] met) {
+            met[area] = true;
+            for (int other = 1; other <= rounds.length; other++) {
+                if (joins[area][other] && rounds[other - 1] == rounds[area - 1] && !met[other]) {
+                    meet(other, rounds, met);
                 }
             }
-            return true;
         }
 
         private int faultsIn(int[] rounds) {
@@ -378,6 +377,7 @@ public final class ReferenceTest {
 
         private int[] byMoves(long steps) {
             int[] now = todays.stream().mapToInt(Integer::intValue).toArray();
+            long least = cost(now);
             long reckoned = 0;
             boolean again = true;
             while (again) {
@@ -394,8 +394,9 @@ public final class ReferenceTest {
                         reckoned++;
                         int[] then = Arrays.copyOf(now, now.length);
                         then[i] = r;
-                        if (cost(then) < cost(now)) {
+                        if (cost(then) < least) {
                             now = then;
+                            least = cost(then);
                             again = true;
                             break search;
                         }
