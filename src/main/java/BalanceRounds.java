@@ -376,7 +376,8 @@ public final class BalanceRounds {
         }
 
         int allFaults() {
-            int found = 0;
+            // Where no round has hours each open area will be a fault, wherever it is put.
+            int found = town.roundsWithHours() == 0 ? Integer.bitCount(open) : 0;
             for (int round = 0; round < ROUNDS; round++) {
                 if (!hangsTogether(round)) {
                     found++;

@@ -17,7 +17,11 @@ final class Check {
     }
 
     static void due(String call, long got, long want) {
-        if (got != want) {
+        due(call, Long.toString(got), Long.toString(want));
+    }
+
+    static void due(String call, String got, String want) {
+        if (!got.equals(want)) {
             wrong++;
             System.out.println(sentence + call + " answered " + got + ", due is " + want);
         }

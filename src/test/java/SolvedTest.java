@@ -66,6 +66,10 @@ public final class SolvedTest {
         Check.due("36 in four rounds: faults()", x.faults(), 0);
         Check.due("36 in four rounds: changed()", x.changed(), 6);
         Check.dueShare("36 in four rounds", x, 0, 1, 2, 3, 3, 2, 1, 0);
+        Towns.hours(x, 0, 0, 0, 0);
+        Check.due("the same without hours: solve", x.solve(0), 9);
+        Check.due("the same without hours: faults()", x.faults(), 8);
+        Check.dueShare("the same without hours", x, 0, 1, 2, 3, 3, 2, 1, 0);
     }
 
     private static void exactlyTheLeastRow() {
